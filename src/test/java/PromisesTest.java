@@ -2,67 +2,10 @@
  * At least one test for each promise of the document, with answers worked out by hand. What a call changes is
  * seen by the digest: the document promises nothing for more than 512 calls of an object, so it must be one call.
  */
-public final class PromisesTest {
-    private static final Class<?> INDEX = IndexOutOfBoundsException.class;
-    private static final Class<?> ARGUMENT = IllegalArgumentException.class;
-    private static final Class<?> STATE = IllegalStateException.class;
-    private static final int LOW = Integer.MIN_VALUE;
-    private static final int HIGH = Integer.MAX_VALUE;
-
-    private static int wrong = 0;
-    private static int promise = 0;
-
-    private interface Call {
-        void run();
-    }
-
-    private static void fail(String what) {
-        wrong++;
-        System.out.println("promise " + promise + ": " + what);
-    }
-
-    private static void due(String what, long got, long want) {
-        if (got != want) {
-            fail(what + " answered " + got + ", due is " + want);
-        }
-    }
-
-    private static void due(String what, boolean got, boolean want) {
-        if (got != want) {
-            fail(what + " answered " + got + ", due is " + want);
-        }
-    }
-
-    private static void due(String what, double got, double want) {
-        if (got != want) {
-            fail(what + " answered " + got + ", due is " + want);
-        }
-    }
-
-    /** The call throws exactly this class, no subclass of it, and changes nothing. */
-    private static void refused(CanyonEchoes x, String what, Class<?> want, Call call) {
-        long before = x.digest();
-        Class<?> got = null;
-        try {
-            call.run();
-        } catch (RuntimeException e) {
-            got = e.getClass();
-        }
-        if (got != want) {
-            fail(what + " throws " + got + ", due is " + want);
-        }
-        if (x.digest() != before) {
-            fail(what + " changed something");
-        }
-    }
-
-    /** The call answers this and changes nothing. */
-    private static void foreseen(CanyonEchoes x, String what, long want, java.util.function.LongSupplier call) {
-        long before = x.digest();
-        due(what, call.getAsLong(), want);
-        if (x.digest() != before) {
-            fail(what + " changed something");
-        }
+public final class PromisesTest extends Checks {
+    /** The promise that is being tested. */
+    private static void promise(int number) {
+        about = "promise " + number;
     }
 
     public static void main(String[] args) {
@@ -90,14 +33,11 @@ public final class PromisesTest {
         promise32();
         promise33();
         promise34();
-        System.out.println(wrong == 0 ? "all promises hold" : wrong + " faults");
-        if (wrong != 0) {
-            System.exit(1);
-        }
+        finish("all promises hold");
     }
 
     private static void promise1() {
-        promise = 1;
+        promise(1);
         CanyonEchoes x = new CanyonEchoes();
         due("beat", x.beat(), 0);
         due("walls", x.walls(), 0);
@@ -128,7 +68,7 @@ public final class PromisesTest {
     }
 
     private static void promise2() {
-        promise = 2;
+        promise(2);
         CanyonEchoes x = new CanyonEchoes();
         due("first wall", x.addWall(0, 0, 0), 0);
         due("second wall", x.addWall(31, 1, 5), 1);
@@ -166,7 +106,7 @@ public final class PromisesTest {
     }
 
     private static void promise3() {
-        promise = 3;
+        promise(3);
         CanyonEchoes x = new CanyonEchoes();
         refused(x, "hand without walls", INDEX, () -> x.hand(0));
         x.addWall(3, 0, 0);
@@ -193,7 +133,7 @@ public final class PromisesTest {
     }
 
     private static void promise4() {
-        promise = 4;
+        promise(4);
         CanyonEchoes x = new CanyonEchoes();
         due("first snow", x.setSnow(0, 5), 0);
         due("next snow", x.setSnow(0, 2), 5);
@@ -212,7 +152,7 @@ public final class PromisesTest {
     }
 
     private static void promise5() {
-        promise = 5;
+        promise(5);
         CanyonEchoes x = new CanyonEchoes();
         x.addWall(7, 0, 5);
         due("first shout", x.shout(7, true, 1), 0);
@@ -259,7 +199,7 @@ public final class PromisesTest {
     }
 
     private static void promise6Moves() {
-        promise = 6;
+        promise(6);
         CanyonEchoes x = new CanyonEchoes();
         x.setSnow(4, 3);
         x.setSnow(3, 5);
@@ -485,34 +425,34 @@ public final class PromisesTest {
     }
 
     private static void promises7To11() {
-        promise = 7;
+        promise(7);
         CanyonEchoes x = new CanyonEchoes();
         x.pass(1);
         due("beat", x.beat(), 1);
         x.pass(100);
         due("beat", x.beat(), 101);
-        promise = 8;
+        promise(8);
         x.addWall(1, 0, 0);
         x.addWall(2, 0, 0);
         x.hand(1);
         due("walls", x.walls(), 2);
-        promise = 9;
+        promise(9);
         x.shout(10, true, 9);
         x.shout(12, false, 9);
         due("shouts", x.shouts(), 2);
-        promise = 10;
+        promise(10);
         due("underWay", x.underWay(), 2);
-        promise = 11;
+        promise(11);
         due("overlaps", x.overlaps(), 0);
         x.pass(1);
         due("overlaps", x.overlaps(), 1);
-        promise = 9;
+        promise(9);
         due("shouts that are gone count", x.shouts(), 2);
-        promise = 10;
+        promise(10);
         due("underWay", x.underWay(), 1);
         x.pass(8);
         due("underWay", x.underWay(), 0);
-        promise = 11;
+        promise(11);
         due("overlaps stay", x.overlaps(), 1);
     }
 
@@ -523,22 +463,22 @@ public final class PromisesTest {
         x.addWall(8, 0, 1);
         x.shout(9, true, 42);
         for (int i = 0; i < 32; i++) {
-            promise = 12;
+            promise(12);
             due("snowOn " + i, x.snowOn(i), i == 9 ? 4 : 0);
-            promise = 13;
+            promise(13);
             due("wallOn " + i, x.wallOn(i), i == 9 ? 0 : i == 8 ? 1 : -1);
-            promise = 14;
+            promise(14);
             due("loudOn " + i, x.loudOn(i), i == 9 ? 42 : 0);
         }
         x.pass(1);
         due("loudOn 9 behind it", x.loudOn(9), 0);
         due("loudOn 10", x.loudOn(10), 41);
         for (int bad : new int[] {-1, 32, LOW, HIGH}) {
-            promise = 12;
+            promise(12);
             refused(x, "snowOn " + bad, INDEX, () -> x.snowOn(bad));
-            promise = 13;
+            promise(13);
             refused(x, "wallOn " + bad, INDEX, () -> x.wallOn(bad));
-            promise = 14;
+            promise(14);
             refused(x, "loudOn " + bad, INDEX, () -> x.loudOn(bad));
         }
     }
@@ -549,24 +489,24 @@ public final class PromisesTest {
         x.addWall(22, 0, 0);
         x.shout(21, true, 4);
         x.pass(10);
-        promise = 15;
+        promise(15);
         due("stoneOf 0", x.stoneOf(0), 20);
         due("stoneOf 1", x.stoneOf(1), 22);
-        promise = 16;
+        promise(16);
         due("ownerOf 0", x.ownerOf(0), 1);
         due("ownerOf 1", x.ownerOf(1), 0);
-        promise = 17;
+        promise(17);
         due("thrownBack 0", x.thrownBack(0), 1);
         due("thrownBack 1", x.thrownBack(1), 1);
         x.shout(21, true, 7);
         x.pass(10);
         due("one thrown back twice counts twice", x.thrownBack(1), 3);
         for (int bad : new int[] {-1, 2, LOW, HIGH}) {
-            promise = 15;
+            promise(15);
             refused(x, "stoneOf " + bad, INDEX, () -> x.stoneOf(bad));
-            promise = 16;
+            promise(16);
             refused(x, "ownerOf " + bad, INDEX, () -> x.ownerOf(bad));
-            promise = 17;
+            promise(17);
             refused(x, "thrownBack " + bad, INDEX, () -> x.thrownBack(bad));
         }
     }
@@ -578,33 +518,33 @@ public final class PromisesTest {
         x.addWall(24, 1, 0);
         x.shout(21, true, 6);
         x.pass(4);
-        promise = 18;
+        promise(18);
         due("coinsOf 0", x.coinsOf(0), 1);
         due("coinsOf 1", x.coinsOf(1), 1);
-        promise = 19;
+        promise(19);
         due("wallsOf 0", x.wallsOf(0), 1);
         due("wallsOf 1", x.wallsOf(1), 2);
-        promise = 20;
+        promise(20);
         due("silentFor 0", x.silentFor(0), 3);
         due("silentFor 1", x.silentFor(1), 1);
-        promise = 21;
+        promise(21);
         due("inherited", x.inherited(), 0);
         x.pass(12);
         due("inherited by both, a wall back and forth", x.inherited(), 1);
-        promise = 18;
+        promise(18);
         due("coinsOf 0 behind a second throw", x.coinsOf(0), 2);
-        promise = 20;
+        promise(20);
         due("silentFor 0", x.silentFor(0), 11);
         due("silentFor 1", x.silentFor(1), 1);
-        promise = 19;
+        promise(19);
         due("wallsOf 0", x.wallsOf(0), 2);
         due("wallsOf 1", x.wallsOf(1), 1);
         for (int bad : new int[] {-1, 2, LOW, HIGH}) {
-            promise = 18;
+            promise(18);
             refused(x, "coinsOf " + bad, INDEX, () -> x.coinsOf(bad));
-            promise = 19;
+            promise(19);
             refused(x, "wallsOf " + bad, INDEX, () -> x.wallsOf(bad));
-            promise = 20;
+            promise(20);
             refused(x, "silentFor " + bad, INDEX, () -> x.silentFor(bad));
         }
     }
@@ -614,43 +554,43 @@ public final class PromisesTest {
         x.addWall(12, 0, 3);
         x.shout(10, true, 20);
         x.shout(2, false, 20);
-        promise = 22;
+        promise(22);
         due("loudnessOf 0", x.loudnessOf(0), 20);
-        promise = 24;
+        promise(24);
         due("goesRight 0", x.goesRight(0), true);
         due("goesRight 1", x.goesRight(1), false);
         x.pass(3);
-        promise = 22;
+        promise(22);
         due("loudnessOf 0", x.loudnessOf(0), 14);
         due("loudnessOf 1, gone", x.loudnessOf(1), 0);
-        promise = 23;
+        promise(23);
         due("placeOf 0", x.placeOf(0), 11);
         due("placeOf 1, gone", x.placeOf(1), -1);
-        promise = 24;
+        promise(24);
         due("goesRight 0", x.goesRight(0), false);
-        promise = 25;
+        promise(25);
         due("turnsOf 0", x.turnsOf(0), 1);
         due("turnsOf 1", x.turnsOf(1), 0);
         x.pass(20);
         due("turnsOf 0 stay when it is gone", x.turnsOf(0), 1);
         x.shout(31, true, 5);
         x.pass(1);
-        promise = 24;
+        promise(24);
         due("goesRight of one that is gone", x.goesRight(2), false);
         for (int bad : new int[] {-1, 3, 40, LOW, HIGH}) {
-            promise = 22;
+            promise(22);
             refused(x, "loudnessOf " + bad, INDEX, () -> x.loudnessOf(bad));
-            promise = 23;
+            promise(23);
             refused(x, "placeOf " + bad, INDEX, () -> x.placeOf(bad));
-            promise = 24;
+            promise(24);
             refused(x, "goesRight " + bad, INDEX, () -> x.goesRight(bad));
-            promise = 25;
+            promise(25);
             refused(x, "turnsOf " + bad, INDEX, () -> x.turnsOf(bad));
         }
     }
 
     private static void promise26() {
-        promise = 26;
+        promise(26);
         CanyonEchoes x = new CanyonEchoes();
         due("without walls", x.nextWall(5, true), -1);
         x.addWall(31, 0, 0);
@@ -672,7 +612,7 @@ public final class PromisesTest {
     }
 
     private static void promise27() {
-        promise = 27;
+        promise(27);
         CanyonEchoes x = new CanyonEchoes();
         refused(x, "beatsUntilGone without shouts", INDEX, () -> x.beatsUntilGone(0));
         x.shout(10, true, 5);
@@ -698,7 +638,7 @@ public final class PromisesTest {
     }
 
     private static void promise28() {
-        promise = 28;
+        promise(28);
         CanyonEchoes x = new CanyonEchoes();
         foreseen(x, "none", 0, x::beatsUntilQuiet);
         x.shout(10, true, 5);
@@ -716,7 +656,7 @@ public final class PromisesTest {
     }
 
     private static void promise29() {
-        promise = 29;
+        promise(29);
         CanyonEchoes x = new CanyonEchoes();
         x.addWall(10, 0, 0);
         x.addWall(13, 1, 2);
@@ -752,7 +692,7 @@ public final class PromisesTest {
     }
 
     private static void promise30() {
-        promise = 30;
+        promise(30);
         CanyonEchoes x = new CanyonEchoes();
         x.addWall(10, 0, 4);
         foreseen(x, "none under way", 0, () -> x.loudestOn(5, 100));
@@ -783,7 +723,7 @@ public final class PromisesTest {
     }
 
     private static void promise31() {
-        promise = 31;
+        promise(31);
         CanyonEchoes x = new CanyonEchoes();
         foreseen(x, "straight on", 4, () -> x.loudnessWanted(5, true, 8));
         foreseen(x, "next", 2, () -> x.loudnessWanted(5, true, 6));
@@ -821,7 +761,7 @@ public final class PromisesTest {
     }
 
     private static void promise32() {
-        promise = 32;
+        promise(32);
         CanyonEchoes x = new CanyonEchoes();
         foreseen(x, "without walls", 0, () -> x.bestStone(99));
         x.addWall(0, 0, 0);
@@ -853,7 +793,7 @@ public final class PromisesTest {
     }
 
     private static void promise33() {
-        promise = 33;
+        promise(33);
         CanyonEchoes x = new CanyonEchoes();
         due("without any", x.meanLoudness(), 0.0);
         x.shout(3, true, 10);
@@ -877,7 +817,7 @@ public final class PromisesTest {
     }
 
     private static void promise34() {
-        promise = 34;
+        promise(34);
         CanyonEchoes fresh = new CanyonEchoes();
         foreseen(fresh, "a new one", digestOf(fresh), fresh::digest);
         for (int beats : new int[] {1, 2, 5, 13, 30, 60}) {
