@@ -185,7 +185,7 @@ public final class CanyonEchoes {
     public int nextWall(int stone, boolean isRight) throws IndexOutOfBoundsException {
         needStone(stone);
         int step = isRight ? 1 : -1;
-        for (int at = stone + step; isStone(at); at += step) {
+        for (int at = stone + step; at >= 0 && at < STONES; at += step) {
             if (now.wallAt[at] != NONE) {
                 return at;
             }
